@@ -822,11 +822,13 @@ public final class SpringPawn {
 
         /** The day on which a crop ripens if just these days are in, or NONE. */
         int ripensOn(int crop, int in) {
+            int enough = needs[crop];
+            int leastGift = least[crop];
             int inARow = 0;
             for (int d = 0; d < days; d++) {
                 if (has(in, d)) {
-                    inARow = gift[d] >= least[crop] ? inARow + 1 : 0;
-                    if (inARow >= needs[crop]) {
+                    inARow = gift[d] >= leastGift ? inARow + 1 : 0;
+                    if (inARow >= enough) {
                         return d;
                     }
                 }

@@ -124,6 +124,18 @@ public final class KindsTest {
         x.back(1);
         DUE.is("the image has them still", x.undo(), 2);
         DUE.is("years", x.now(1), 1);
+        for (int i = 0; i < 12; i++) {
+            x.year();
+        }
+        x.keep(0);
+        for (int i = 0; i < 12; i++) {
+            x.year();
+        }
+        x.back(0);
+        for (int i = 9; i >= 0; i--) {
+            DUE.is("undo of ten that were kept", x.undo(), i);
+            DUE.is("its years", x.now(1), 3 + i);
+        }
         SpringPawn y = Due.of("s9 2;");
         y.keep(0);
         y.year();

@@ -31,12 +31,18 @@ public final class PawnTest {
 
     private static void lends() {
         SpringPawn x = Due.of("s3 2;s3 5;p4;");
+        DUE.is("lends(0, 1)", x.lends(0, 1), 8);
         DUE.is("lends(2, 2)", x.lends(2, 2), 28);
         DUE.is("0 for those behind the last", x.lends(5, 9), 20);
         DUE.is("0 for those behind the last", x.lends(0, 9), 84);
         x.pawns(2, 2);
         DUE.is("days that are OUT are there", x.lends(2, 2), 28);
         DUE.is("the most", Due.of("s9 9;p9;").lends(0, 9), 729);
+        DUE.is("behind day 29", Due.of("s9 9;s9 9;s9 9;s3 9;p1;").lends(28, 9), 18);
+        SpringPawn y = Due.of("s9 9;");
+        Due.read(y, "s9 9;");
+        Due.read(y, "s1 1;");
+        DUE.is("no gifts of older texts", y.lends(0, 9), 2);
         DUE.all("no such day", BAD, x.lends(-1, 1), x.lends(6, 1), x.lends(30, 1));
         DUE.all("no such n", BAD, x.lends(0, 0), x.lends(0, 10), x.lends(0, -1));
         for (int n : OUTSIDE) {
@@ -97,8 +103,15 @@ public final class PawnTest {
         DUE.row("loans 1 and 2", freed(x), 6, 50);
         x.pawns(8, 1);
         DUE.row("loans 1, 2 and 3", freed(x), 14, 50);
+        x.redeems(0);
         x.year();
-        DUE.row("now", freed(x), 14, 50);
+        DUE.row("a year on", freed(x), 14, 50);
+        SpringPawn y = Due.of("s5 2;c5 2 10;i0;");
+        y.pawns(2, 1);
+        DUE.row("loan 0", freed(y), 1, 10);
+        SpringPawn z = Due.of("s2 2;s1 1;s2 2;c4 2 10;i0;");
+        z.pawns(2, 1);
+        DUE.row("none if it does harm", freed(z), 0, 10);
     }
 
     private static void freeingTies() {

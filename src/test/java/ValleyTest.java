@@ -17,6 +17,7 @@ public final class ValleyTest {
         faultsOfItems();
         faultsOfNumbers();
         faultsChangeNothing();
+        bytesBehindTheText();
         days();
         crops();
         gapsDoNotMatter();
@@ -133,6 +134,11 @@ public final class ValleyTest {
         fault("{", 0);
         fault("s1 /;", 3);
         fault("s1 :;", 3);
+        fault("sa1 1;", 0);
+        fault("sz1 1;", 0);
+        fault("s1 1A", 4);
+        fault("p1 100", 3);
+        fault("99 1 1 1;", 0);
     }
 
     private static void faultsOfItems() {
@@ -199,6 +205,23 @@ public final class ValleyTest {
         DUE.is("the rest of the text", x.clear(), 22);
         DUE.is("a good text behind it", Due.read(x, "s1 1;"), 1);
         DUE.row("nothing of the fault is left", Due.counts(x), 1, 1, 0, 2, 3, 9, 0, 0, 0);
+    }
+
+    private static void bytesBehindTheText() {
+        SpringPawn x = new SpringPawn();
+        Due.type(x, "p111;");
+        x.clear();
+        DUE.is("no digit of an older text", Due.read(x, "p1"), -10 - 2);
+        x.clear();
+        Due.type(x, "ppp;");
+        x.clear();
+        DUE.is("no letter of an older text", Due.read(x, "p"), -10 - 1);
+        x.clear();
+        DUE.is("letters up to the last byte there may be", Due.read(x, " ".repeat(149) + "s"), -10 - 150);
+        x.clear();
+        DUE.is("a number up to the last byte there may be", Due.read(x, " ".repeat(148) + "s1"), -10 - 150);
+        x.clear();
+        DUE.is("blanks up to the last byte there may be", Due.read(x, " ".repeat(150)), 0);
     }
 
     private static void days() {
