@@ -46,8 +46,7 @@ public final class SpringPawn {
     private static final int SEMICOLON = 3;
     private static final int WRONG = 4;
 
-    private final Text text = new Text();
-    private final Reader reader = new Reader(text);
+    private final Reader reader = new Reader();
     private Land land = new Land();
     private final Story story = new Story();
     private final Story[] images = new Story[IMAGES];
@@ -71,11 +70,11 @@ public final class SpringPawn {
         if (!isWithin(c, 0, 255)) {
             return BAD;
         }
-        return text.take(c) ? text.size : FULL;
+        return reader.text.take(c) ? reader.text.size : FULL;
     }
 
     public int clear() {
-        return text.drop();
+        return reader.text.drop();
     }
 
     public int valley() {
@@ -84,7 +83,7 @@ public final class SpringPawn {
             return items;
         }
         land = reader.handOver(land);
-        text.drop();
+        reader.text.drop();
         story.startAnew();
         told = 0;
         for (int i = 0; i < IMAGES; i++) {
@@ -407,7 +406,7 @@ public final class SpringPawn {
             case 7:
                 return story.known;
             case 8:
-                return text.size;
+                return reader.text.size;
             default:
                 return BAD;
         }
@@ -640,19 +639,15 @@ public final class SpringPawn {
         }
     }
 
-    /** Reads a text's items into a land; behind the first fault it reads nothing any more. */
+    /** Has THE TEXT and reads its items into a land; behind the first fault it reads nothing any more. */
     private static final class Reader {
-        private final Text text;
+        final Text text = new Text();
         /** A land of its own, so that nothing changes if the text has a fault. */
         private Land draft = new Land();
         private int fault = NONE;
         private boolean hasPrice = false;
         private boolean hasInterest = false;
         private boolean hasLapse = false;
-
-        Reader(Text itsText) {
-            text = itsText;
-        }
 
         /** How many items there are, or FAULT_BASE less the fault. */
         int readItems() {
