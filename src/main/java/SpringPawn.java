@@ -151,18 +151,16 @@ public final class SpringPawn {
     // ---- what is done
 
     public int pawns(int d, int n) {
-        // The days behind the last one are no such thing; only LENDS says that they count 0.
-        if (!isDay(d) || !isWithin(n, 1, ROW_MOST) || d + n > land.days) {
+        if (!isDay(d) || !isWithin(n, 1, ROW_MOST)) {
             return BAD;
         }
-        int row = rowBits(d, n);
         int loan = story.now.lowestFree();
-        if ((row & ~daysIn()) != 0 || loan == NONE) {
+        if (!isRowIn(d, n) || loan == NONE) {
             return STATE;
         }
         story.remember();
         int sum = land.lentFor(d, n);
-        story.now.pawn(loan, row, sum);
+        story.now.pawn(loan, rowBits(d, n), sum);
         return sum;
     }
 
@@ -444,6 +442,11 @@ public final class SpringPawn {
 
     private int daysIn() {
         return story.now.daysIn(land);
+    }
+
+    /** A day behind the last one is not there to be in: a row that goes on behind it is not all in. */
+    private boolean isRowIn(int d, int n) {
+        return d + n <= land.days && (rowBits(d, n) & ~daysIn()) == 0;
     }
 
     private boolean ripensNow(int c) {

@@ -9,6 +9,7 @@ public final class DeedsTest {
     public static void main(String[] args) {
         pawning();
         pawningRefused();
+        pawningUpToTheLastDay();
         redeeming();
         redeemingRefused();
         interest();
@@ -41,22 +42,49 @@ public final class DeedsTest {
         SpringPawn x = Due.of("s9 2;s3 5;");
         DUE.all("no such day", BAD, x.pawns(-1, 1), x.pawns(12, 1), x.pawns(30, 1));
         DUE.all("no such n", BAD, x.pawns(0, 0), x.pawns(0, -1), x.pawns(0, 10));
-        DUE.all("days behind the last", BAD, x.pawns(11, 2), x.pawns(4, 9));
+        DUE.all("days behind the last are not IN", STATE, x.pawns(11, 2), x.pawns(4, 9), x.pawns(11, 9));
         for (int n : OUTSIDE) {
             DUE.all("pawns, " + n, BAD, x.pawns(n, 1), x.pawns(0, n), x.pawns(n, n));
         }
         DUE.is("nothing to be undone", x.count(7), 0);
         DUE.is("pawns(3, 9)", x.pawns(3, 9), 54);
         DUE.all("not all IN", STATE, x.pawns(3, 1), x.pawns(2, 2), x.pawns(0, 9), x.pawns(11, 1));
-        DUE.is("BAD goes ahead of STATE", x.pawns(11, 2), BAD);
+        DUE.is("OUT, and days behind the last", x.pawns(11, 2), STATE);
+        DUE.all("BAD goes ahead of STATE", BAD, x.pawns(12, 2), x.pawns(11, 10), x.pawns(11, 0));
         x.pawns(0, 1);
         x.pawns(1, 1);
         x.redeems(0);
         x.pawns(11, 1);
         x.pawns(10, 1);
         DUE.all("no loan is free", STATE, x.pawns(2, 1), x.pawns(5, 2));
+        DUE.all("no loan is free, days behind the last", STATE, x.pawns(9, 4), x.pawns(11, 2));
         DUE.is("BAD goes ahead of STATE, no loan free", x.pawns(12, 1), BAD);
         DUE.row("now", Due.now(x), 28, 0, 3075, 0, 0, 2, 28);
+    }
+
+    /** Every row from every day of the shortest and of the longest year: pawned just up to the last day. */
+    private static void pawningUpToTheLastDay() {
+        pawnEveryRow("s1 1;p1;", 1);
+        pawnEveryRow("s5 1;p1;", 5);
+        pawnEveryRow("s9 1;s9 1;s9 1;s3 1;p1;", 30);
+        SpringPawn none = Due.of("c1 0 1;");
+        DUE.all("a year without days has no such day", BAD, none.pawns(0, 1), none.pawns(0, 9));
+    }
+
+    private static void pawnEveryRow(String text, int days) {
+        for (int d = 0; d < days; d++) {
+            // An object for each day: one for all would be used for more than 512 calls.
+            SpringPawn x = Due.of(text);
+            for (int n = 1; n <= 9; n++) {
+                boolean there = d + n <= days;
+                String call = days + " days, pawns(" + d + ", " + n + ")";
+                DUE.is(call, x.pawns(d, n), there ? n : STATE);
+                DUE.is(call + ": the purse", x.now(0), there ? n : 0);
+                DUE.is(call + ": undone", x.undo(), there ? 0 : STATE);
+            }
+            DUE.all(days + " days, no such n, day " + d, BAD, x.pawns(d, 0), x.pawns(d, 10));
+            DUE.all(days + " days, no such day", BAD, x.pawns(days, 1), x.pawns(days, 9));
+        }
     }
 
     private static void redeeming() {

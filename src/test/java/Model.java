@@ -264,7 +264,7 @@ final class Model {
     }
 
     int pawns(int d, int n) {
-        if (d < 0 || d >= days.size() || n < 1 || n > 9 || d + n > days.size()) {
+        if (d < 0 || d >= days.size() || n < 1 || n > 9) {
             return BAD;
         }
         int free = now.loans.indexOf(null);
