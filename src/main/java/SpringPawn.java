@@ -642,7 +642,7 @@ public final class SpringPawn {
         }
     }
 
-    /** Has THE TEXT and reads its items into a land; behind the first fault it reads nothing any more. */
+    /** Has THE TEXT and reads its items into a land; behind an item with a fault it reads no more. */
     private static final class Reader {
         final Text text = new Text();
         /** A land of its own, so that nothing changes if the text has a fault. */
@@ -737,30 +737,25 @@ public final class SpringPawn {
 
         private void readLetter(boolean mayStand) {
             refuseUnless(mayStand);
-            toNextToken();
+            text.toNextToken();
         }
 
         private int readNumber(int least, int most) {
             int number = text.tokenValue;
             refuseUnless(text.tokenKind == NUMBER && isWithin(number, least, most));
-            toNextToken();
+            text.toNextToken();
             return number;
         }
 
         private void readEnd() {
             refuseUnless(text.tokenKind == SEMICOLON);
-            toNextToken();
+            text.toNextToken();
         }
 
+        /** Only the first fault is kept: the tokens behind it in the same item may be looked at. */
         private void refuseUnless(boolean mayStand) {
             if (!mayStand && fault == NONE) {
                 fault = text.tokenAt;
-            }
-        }
-
-        private void toNextToken() {
-            if (fault == NONE) {
-                text.toNextToken();
             }
         }
     }

@@ -1,13 +1,32 @@
 /** What every test of the project uses: answers against those that are due, and texts typed in. */
 final class Due {
+    private final Doc doc;
+    /** The sentence that the answers hold, ahead of what is told of a wrong one. */
+    private String held = "";
     private int calls = 0;
     private int wrong = 0;
+
+    Due() {
+        this(null);
+    }
+
+    Due(Doc doc) {
+        this.doc = doc;
+    }
 
     void is(String call, long got, long want) {
         calls++;
         if (got != want) {
             wrong++;
-            System.out.println(call + " answered " + got + ", due is " + want);
+            System.out.println(held + call + " answered " + got + ", due is " + want);
+        }
+    }
+
+    /** The answers that follow hold this sentence, which the document must have. */
+    void sentence(String section, String words) {
+        held = words.isEmpty() ? "" : section + ", \"" + words + "\": ";
+        if (doc != null && !words.isEmpty()) {
+            is("how often the document has it", doc.quote(section, words) ? 1 : 0, 1);
         }
     }
 

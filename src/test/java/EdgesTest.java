@@ -1,0 +1,24 @@
+import java.io.IOException;
+
+/** Every sentence of the document's terms and promises has a test that names it, and holds at its edges. */
+public final class EdgesTest {
+    public static void main(String[] args) throws IOException {
+        Doc doc = new Doc();
+        Due due = new Due(doc);
+        due.is("sections: four of Terms, 26 promises", doc.names().size(), 30);
+        new YearEdges(due).run();
+        new LoanEdges(due).run();
+        new AskingEdges(due).run();
+        new KindEdges(due).run();
+        new RefusalEdges(due).run();
+        new ValleyCallEdges(due).run();
+        new DeedCallEdges(due).run();
+        new AskingCallEdges(due).run();
+        new KindCallEdges(due).run();
+        due.sentence("all of it", "");
+        for (String left : doc.unquoted()) {
+            due.is("no test names " + left, 1, 0);
+        }
+        due.end();
+    }
+}
