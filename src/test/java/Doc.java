@@ -25,6 +25,10 @@ final class Doc {
     /** By their names: "Terms 1" to "Terms 4" and "Promise 1" to "Promise 26". */
     private final Map<String, Section> sections = new LinkedHashMap<>();
 
+    static boolean isThere() {
+        return Files.isReadable(FILE);
+    }
+
     Doc() throws IOException {
         String all = Files.readString(FILE).replaceAll("(?m)^```.*$", "").replaceAll("(?m)^Ahead of the calls.*$", "");
         Matcher heads = Pattern.compile("(?ms)^## (Terms|Promise \\d+)[^\n]*\n(.*?)(?=^## |\\z)").matcher(all);

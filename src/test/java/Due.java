@@ -26,7 +26,7 @@ final class Due {
     void sentence(String section, String words) {
         held = words.isEmpty() ? "" : section + ", \"" + words + "\": ";
         if (doc != null && !words.isEmpty()) {
-            is("how often the document has it", doc.quote(section, words) ? 1 : 0, 1);
+            is("whether the document has it", doc.quote(section, words) ? 1 : 0, 1);
         }
     }
 

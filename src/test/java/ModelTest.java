@@ -26,7 +26,8 @@ public final class ModelTest {
 
     private void run() {
         while (calls < CALLS) {
-            if (calls == 0 || random.nextInt(120) == 0) {
+            // A text takes up to 152 calls: behind the 512th any answer would be right.
+            if (calls == 0 || random.nextInt(120) == 0 && calls + 152 <= CALLS) {
                 tell();
             } else {
                 call();
